@@ -100,5 +100,25 @@ public final class ChangesTest {
     Due.is("worth", x.of(0, 10), 43);
     Due.is("redo", x.redo(), 1);
     Due.is("worth", x.of(0, 10), 44);
+    unlikeOnes();
+  }
+
+  /** Behind forty changes each one still knows whose it was, and of what. */
+  private static void unlikeOnes() {
+    SpeaksInTurn x = table();
+    int[] whats = {0, 1, 2, 4};
+    int[] told = {0, 1, 3, 11};
+    int[] before = new int[50];
+    for (int i = 0; i < 50; i++) {
+      int number = i % 4 == 3 ? 0 : i % 3 % 2;
+      int now = x.of(number, told[i % 4]);
+      before[i] = x.mend(number, whats[i % 4], (now + 1 + i % 5) % 10);
+      Due.is("mend", before[i], now);
+    }
+    for (int i = 49; i >= 10; i--) {
+      Due.is("undo", x.undo(), i - 10);
+      Due.is("as it was", x.of(i % 4 == 3 ? 0 : i % 3 % 2, told[i % 4]), before[i]);
+    }
+    Due.is("no more", x.undo(), -5);
   }
 }

@@ -77,6 +77,8 @@ public final class LawTest {
     right("((((((r))))))");
     right("!!!!!!r+!!!!!!v*((((((e))))))");
     right("-r--v");
+    right("r?((((((v))))));0?!!!!!!e");
+    fault("r?(((((((v", 8);
     right("(r<v)<e");
     right("r<v&v<e|e<n&n=1");
     right("(r|v)?(r<v)=(e>n);!p");

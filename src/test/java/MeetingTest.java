@@ -24,6 +24,9 @@ public final class MeetingTest {
     needed();
     strangers();
     keptAsItWas();
+    withoutLaw();
+    heldTwice();
+    fullTable();
     Due.end();
   }
 
@@ -202,6 +205,8 @@ public final class MeetingTest {
     Due.is("empty is not", x.did(2, 2), 0);
     Due.is("minutes", x.told(0), 12);
     Due.is("share cut", x.did(0, 0), 5 * 1000 / 12);
+    Due.is("who said the third", x.first(2, 0), 0);
+    Due.is("in which saying", x.first(2, 1), 3);
   }
 
   private static void standingAndTimer() {
@@ -232,6 +237,8 @@ public final class MeetingTest {
     x.meet(0);
     who(x, 0, 0, 1, 1, 1);
     Due.is("no more", x.told(1), 5);
+    x = table("s=0?5;s=1?l=1;0", 0);
+    Due.is("l is 1", x.meet(0), 2);
   }
 
   private static void free() {
@@ -288,6 +295,10 @@ public final class MeetingTest {
     x.mend(2, 2, 0);
     x.meet(0);
     who(x, 1, 2, 2, 3, 3, 3);
+    x = table("v-3*s", 12, 39);
+    x.set(0, 4);
+    x.meet(0);
+    who(x, 0, 1, 1, 1);
   }
 
   private static void paper() {
@@ -352,6 +363,13 @@ public final class MeetingTest {
     x.mend(2, 2, 0);
     x.meet(0);
     Due.is("one minute standing, too", x.saying(0, 3), 1);
+    x = table("p?2-s;5-s", 9, 2);
+    x.set(0, 1);
+    x.meet(0);
+    who(x, 0, 1, 0, 1, 0, 0, 0);
+    Due.is("by person 0", x.saying(1, 6), 0);
+    Due.is("not twice in a row", x.saying(3, 6), -2);
+    Due.is("stops of 0", x.did(0, 1), 1);
   }
 
   private static void stoppedAgain() {
@@ -473,6 +491,78 @@ public final class MeetingTest {
     Due.is("somebody at all", x.told(4), 1);
     Due.is("two know the third, one the first", x.told(6), 1);
     Due.is("not said", x.told(5), 0);
+  }
+
+  private static void withoutLaw() {
+    SpeaksInTurn x = new SpeaksInTurn();
+    x.person(4, 0);
+    x.thing(1, 8);
+    Due.is("12, 7, 2", x.meet(0), 3);
+    Due.is("sayings", x.told(1), 3);
+    x.mend(0, 2, 1);
+    Due.is("nobody is there", x.meet(0), 0);
+    Due.is("no share", x.did(0, 0), 0);
+    x.mend(0, 2, 0);
+    Due.law(x, "1-s");
+    Due.is("one minute", x.meet(0), 1);
+    Due.is("all of it", x.did(0, 0), 1000);
+  }
+
+  private static void heldTwice() {
+    SpeaksInTurn x = table("v+2-s*3", 0, 5);
+    x.card(0, 1, 3);
+    x.set(0, 1);
+    for (int i = 0; i < 3; i++) {
+      Due.is("meet", x.meet(0), 4);
+      says(x, 0, 0, 0, 0, 1, 1, -2, 1);
+      says(x, 1, 1, 0, 1, 1, 0, 0, -2);
+      Due.is("stops", x.did(1, 1), 1);
+      Due.is("taken", x.did(1, 2), 3);
+      Due.is("share", x.did(0, 0), 250);
+      Due.is("took", x.took(0, 0), 4);
+      Due.is("sayings", x.told(1), 4);
+    }
+    Due.law(x, "0");
+    Due.is("nobody speaks", x.meet(0), 0);
+    Due.is("stops", x.did(1, 1), 0);
+    Due.is("taken", x.did(1, 2), 0);
+    Due.is("share", x.did(0, 0), 0);
+    Due.is("took", x.took(0, 0), 0);
+    Due.is("first", x.first(0, 0), -2);
+    Due.is("no saying", x.saying(0, 0), -1);
+  }
+
+  private static void fullTable() {
+    SpeaksInTurn x = new SpeaksInTurn();
+    for (int p = 0; p < 10; p++) {
+      x.person(p * 10, 100);
+    }
+    for (int t = 0; t < 6; t++) {
+      x.thing(1, 0);
+    }
+    for (int c = 0; c < 20; c++) {
+      x.card(c % 6, 1, 1 << c % 10);
+    }
+    Due.law(x, "n");
+    for (int rule = 0; rule < 6; rule++) {
+      int minutes = rule == 5 ? 0 : 40;
+      x.set(0, rule);
+      Due.is("full table by rule " + rule, x.meet(634152), minutes);
+      int[] due = {minutes, minutes / 2, 63, 0, 0, 20, 20, 10 * minutes, 0, 0};
+      for (int what = 0; what < 10; what++) {
+        if (what != 8) {
+          Due.is("full table told(" + what + ") by rule " + rule, x.told(what), due[what]);
+        }
+      }
+      Due.is("first of the last", x.first(19, 0), rule == 5 ? -1 : 9);
+      Due.is("the last one's minutes", x.did(9, 3), minutes);
+      Due.is("the last one's share", x.did(9, 0), rule == 5 ? 0 : 100);
+    }
+    x.set(0, 0);
+    x.mend(9, 2, 99);
+    x.meet(0);
+    Due.is("alone but not said", x.told(5), 18);
+    Due.is("alone", x.told(6), 20);
   }
 
   private static void keptAsItWas() {

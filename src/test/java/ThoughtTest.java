@@ -7,6 +7,9 @@ public final class ThoughtTest {
     timers();
     likeOnes();
     changed();
+    everyOrder();
+    lastTimer();
+    apart();
     filmRefusals();
     films();
     Due.end();
@@ -163,6 +166,80 @@ public final class ThoughtTest {
     Due.is("cost of the order", x.order(2), order);
     Due.is("cost of the rule", x.rule(2), rule);
     Due.is("cost of the timer", x.times(2), times);
+  }
+
+  /** Each of five comes as one's own thing is at hand by just one order; else a card is not said. */
+  private static void everyOrder() {
+    for (int order = 12345; order <= 54321; order++) {
+      int[] place = new int[5];
+      int seen = 0;
+      for (int i = 4, rest = order; i >= 0; i--, rest /= 10) {
+        int thing = rest % 10 - 1;
+        if (thing >= 0 && thing < 5) {
+          place[thing] = i;
+          seen |= 1 << thing;
+        }
+      }
+      if (seen == 31) {
+        oneOrder(order, place);
+      }
+    }
+  }
+
+  private static void oneOrder(int order, int[] place) {
+    SpeaksInTurn x = new SpeaksInTurn();
+    x.person(0, 0);
+    for (int t = 0; t < 5; t++) {
+      x.person(0, 5 * place[t]);
+      x.thing(1, 0);
+      x.card(t, -5, 2 << t);
+    }
+    Due.law(x, "p?n;3-s");
+    Due.is("the only order", x.order(0), order);
+    Due.is("none wrong", x.order(1), 0);
+    Due.is("by it", x.meet(order), 25);
+    Due.is("none wrong", x.told(4), 0);
+  }
+
+  private static void lastTimer() {
+    SpeaksInTurn x = new SpeaksInTurn();
+    x.person(0, 100);
+    x.thing(8, 0);
+    for (int c = 0; c < 12; c++) {
+      x.card(0, -1, 1);
+    }
+    Due.law(x, "1-s");
+    Due.is("the last timer", x.times(0), 9);
+    Due.is("none wrong", x.times(1), 0);
+    Due.is("cost", x.times(2), 9);
+    x.mend(0, 3, 9);
+    Due.is("there is no tenth", x.times(0), 1);
+    Due.is("one wrong", x.times(1), 1);
+  }
+
+  /** What is thought out leaves nothing behind for the next thought. */
+  private static void apart() {
+    SpeaksInTurn x = new SpeaksInTurn();
+    x.person(5, 100);
+    x.person(55, 100);
+    x.thing(1, 0);
+    x.thing(1, 1);
+    x.card(0, 1, 1);
+    Due.law(x, "e=p?1+n-s-l;0");
+    x.row(3, 0, 2);
+    x.put(3, 1, 1);
+    int film = x.film(3);
+    int wish = x.wish(0, 0);
+    Due.is("wish", wish, 2);
+    Due.is("film", film, 63);
+    x.order(0);
+    Due.is("film behind an order", x.film(3), film);
+    Due.is("wish behind a film", x.wish(0, 0), wish);
+    x.rule(0);
+    Due.is("wish behind a rule", x.wish(0, 0), wish);
+    x.order(0);
+    x.times(0);
+    Due.is("film behind all", x.film(3), film);
   }
 
   private static void filmRefusals() {
