@@ -331,6 +331,10 @@ public final class MeetingTest {
     Due.is("in no time", x.meet(21), 0);
     Due.is("on paper though nobody speaks", x.first(0, 0), -1);
     Due.is("who is not there yet writes nothing", x.first(2, 0), -2);
+    x.mend(0, 2, 1);
+    x.meet(0);
+    Due.is("nobody is there: no paper", x.first(0, 0), -2);
+    Due.is("and nothing is held back", x.told(3), 0);
   }
 
   private static void stopped() {
@@ -453,6 +457,13 @@ public final class MeetingTest {
     Due.law(x, "0");
     x.meet(0);
     Due.is("none took any", x.told(8), 0);
+    x = new SpeaksInTurn();
+    x.person(0, 0);
+    x.thing(87, 0);
+    x.thing(-90, 1);
+    Due.law(x, "29+e-s");
+    Due.is("29 and 30", x.meet(0), 59);
+    Due.is("329 each when cut: the first", x.told(8), 0);
   }
 
   private static void needed() {

@@ -237,6 +237,7 @@ public final class ThoughtTest {
     Due.is("wish behind a film", x.wish(0, 0), wish);
     x.rule(0);
     Due.is("wish behind a rule", x.wish(0, 0), wish);
+    Due.is("wish of who spoke last", x.wish(1, 1), 1);
     x.order(0);
     x.times(0);
     Due.is("film behind all", x.film(3), film);
