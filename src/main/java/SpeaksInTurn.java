@@ -164,10 +164,10 @@ public final class SpeaksInTurn {
     }
 
     public int took(int thing, int what) {
-        if (thing < 0 || thing >= table.things || what < 0 || what > 1 || !minutes.held) {
+        if (!minutes.hadThing(thing) || what < 0 || what > 1) {
             return VOID;
         }
-        return what == 0 ? minutes.meeting.taken[thing] : minutes.comesTo(thing);
+        return (what == 0 ? minutes.meeting.taken : minutes.comes)[thing];
     }
 
     public int did(int person, int what) {
@@ -177,11 +177,11 @@ public final class SpeaksInTurn {
         if (!minutes.held) {
             return STATE;
         }
-        return person < 0 || person >= table.people ? BAD : minutes.ofPerson(person, what);
+        return minutes.hadPerson(person) ? minutes.ofPerson(person, what) : BAD;
     }
 
     public int first(int card, int what) {
-        if (card < 0 || card >= table.cards || what < 0 || what > 1 || !minutes.held) {
+        if (!minutes.hadCard(card) || what < 0 || what > 1) {
             return VOID;
         }
         return (what == 0 ? minutes.meeting.firstWho : minutes.meeting.firstIn)[card];
@@ -978,13 +978,16 @@ public final class SpeaksInTurn {
     private static final class Minutes {
         final Meeting meeting;
         final int[] summary = new int[10];
+        final int[] comes = new int[THINGS];
         boolean held;
         private final Table table;
         private final Meeting without;
         private final int[] agenda = new int[THINGS];
-        private final int[] comes = new int[THINGS];
         private final int[] there = new int[PEOPLE];
+        // With how many it was held: who and what came to the table behind it is not of this meeting.
+        private int people;
         private int things;
+        private int cards;
 
         Minutes(Table table) {
             this.table = table;
@@ -1015,12 +1018,14 @@ public final class SpeaksInTurn {
         int hold() {
             meeting.hold(agenda, table.settings[RULE_IN_FORCE], table.settings[TIMER], NOBODY);
             held = true;
+            people = table.people;
             things = table.things;
+            cards = table.cards;
             for (int t = 0; t < things; t++) {
                 comes[t] = table.sum(t, meeting.said);
             }
-            for (int p = 0; p < PEOPLE; p++) {
-                there[p] = p < table.people ? meeting.minutesThere(p) : 0;
+            for (int p = 0; p < people; p++) {
+                there[p] = meeting.minutesThere(p);
             }
             summarize();
             summary[9] = needed();
@@ -1056,16 +1061,23 @@ public final class SpeaksInTurn {
 
         private int needed() {
             int bits = 0;
-            for (int p = 0; p < table.people; p++) {
+            for (int p = 0; p < people; p++) {
                 without.hold(agenda, table.settings[RULE_IN_FORCE], table.settings[TIMER], p);
                 bits |= without.decided() != meeting.decided() ? 1 << p : 0;
             }
             return bits;
         }
 
-        /** A thing that came behind the meeting had no card said: it comes to its worth. */
-        int comesTo(int thing) {
-            return thing < things ? comes[thing] : table.worth[thing];
+        boolean hadPerson(int person) {
+            return held && person >= 0 && person < people;
+        }
+
+        boolean hadThing(int thing) {
+            return held && thing >= 0 && thing < things;
+        }
+
+        boolean hadCard(int card) {
+            return held && card >= 0 && card < cards;
         }
 
         int ofPerson(int person, int what) {

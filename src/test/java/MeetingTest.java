@@ -24,6 +24,7 @@ public final class MeetingTest {
     needed();
     strangers();
     keptAsItWas();
+    cameBehind();
     withoutLaw();
     heldTwice();
     fullTable();
@@ -603,9 +604,57 @@ public final class MeetingTest {
     Due.is("still there", x.did(0, 3), 5);
     Due.is("still share", x.did(0, 0), 600);
     says(x, 1, 1, 0, 3, 2, 2, -2, -2);
-    Due.is("a person who came behind it", x.did(2, 3), 0);
-    Due.is("a thing that came behind it", x.took(1, 0), 0);
-    Due.is("comes to its worth", x.took(1, 1), 7);
-    Due.is("a card that came behind it", x.first(3, 0), -2);
+    Due.is("still first", x.first(1, 0), 1);
+    Due.is("still in which saying", x.first(1, 1), 1);
+  }
+
+  /** THE MEETING has the people, things and cards with which it was held, and none that came later. */
+  private static void cameBehind() {
+    SpeaksInTurn x = twoAtTable(0);
+    x.meet(0);
+    behind(x, 2, 1, 3);
+    x.person(99, 9900);
+    x.thing(7, 7);
+    x.card(0, 9, 7);
+    x.card(1, 9, 7);
+    behind(x, 2, 1, 3);
+    Due.is("a refused meeting is none", x.meet(13), -1);
+    behind(x, 2, 1, 3);
+    x.rule(0);
+    x.wish(2, 1);
+    behind(x, 2, 1, 3);
+    Due.is("did: what ahead of the person", x.did(2, 4), -1);
+    x.meet(21);
+    behind(x, 3, 2, 5);
+    x.person(0, 0);
+    behind(x, 3, 2, 5);
+    x.meet(0);
+    behind(x, 4, 2, 5);
+    SpeaksInTurn y = new SpeaksInTurn();
+    y.person(0, 0);
+    y.thing(0, 0);
+    y.meet(0);
+    behind(y, 1, 1, 0);
+    y.card(0, 0, 0);
+    behind(y, 1, 1, 0);
+    y.meet(0);
+    behind(y, 1, 1, 1);
+  }
+
+  /** Of a meeting held with so many the last ones answer, the next ones do not. */
+  private static void behind(SpeaksInTurn x, int people, int things, int cards) {
+    for (int what = 0; what < 4; what++) {
+      Due.holds("person of the meeting", x.did(people - 1, what) >= 0);
+      Due.is("person behind it", x.did(people, what), -1);
+      Due.is("person 9", x.did(9, what), -1);
+    }
+    for (int what = 0; what < 2; what++) {
+      Due.holds("thing of the meeting", x.took(things - 1, what) != VOID);
+      Due.is("thing behind it", x.took(things, what), VOID);
+      Due.is("thing 5", x.took(5, what), VOID);
+      Due.holds("card of the meeting", cards == 0 || x.first(cards - 1, what) != VOID);
+      Due.is("card behind it", x.first(cards, what), VOID);
+      Due.is("card 19", x.first(19, what), VOID);
+    }
   }
 }
