@@ -160,27 +160,27 @@ final class ChangesEdges {
     Due.is("RANK", x.of(0, 0), 0);
   }
 
-  /** 45 changes, each of another number and part than the one ahead of it: each is undone and done as it was. */
+  /** 47 changes, each of another number and part than the one ahead of it: each is undone and done as it was. */
   private static void unlikeOnes() {
     SpeaksInTurn x = table();
     x.person(0, 0);
     x.thing(0, 0);
     int[] told = {0, 1, 3, 10, 11};
-    int[] was = new int[45];
+    int[] was = new int[47];
     Due.promise(22, "40 at most are kept: each with its number, what it was and what it became");
-    for (int i = 0; i < 45; i++) {
+    for (int i = 0; i < 47; i++) {
       was[i] = x.mend(i % 2, i * 3 % 5, 1 + i % 9);
     }
-    for (int i = 44; i >= 5; i--) {
+    for (int i = 46; i >= 7; i--) {
       Due.is("as it became", x.of(i % 2, told[i * 3 % 5]), 1 + i % 9);
-      Due.is("undo()", x.undo(), i - 5);
+      Due.is("undo()", x.undo(), i - 7);
       Due.is("as it was", x.of(i % 2, told[i * 3 % 5]), was[i]);
     }
     Due.is("undo()", x.undo(), Due.STATE);
     Due.promise(23, "40 at most are kept: each with its number, what it was and what it became");
-    for (int i = 5; i < 45; i++) {
+    for (int i = 7; i < 47; i++) {
       Due.is("as it was", x.of(i % 2, told[i * 3 % 5]), was[i]);
-      Due.is("redo()", x.redo(), 44 - i);
+      Due.is("redo()", x.redo(), 46 - i);
       Due.is("as it became", x.of(i % 2, told[i * 3 % 5]), 1 + i % 9);
     }
   }

@@ -413,6 +413,9 @@ final class LawEdges {
     Due.is("wish(0, 1) behind a meeting", x.wish(0, 1), 1000);
     x.rule(0);
     Due.is("wish(0, 0) behind a thought", x.wish(0, 0), 2000);
+    x.times(0);
+    Due.is("wish(0, 1) behind another one", x.wish(0, 1), 1000);
+    Due.is("wish(0, 0) behind another one", x.wish(0, 0), 2000);
     Due.promise(21, "one's CARDS of it: none");
     x.person(0, 0);
     x.person(0, 0);

@@ -223,6 +223,19 @@ final class MeetingEdges {
     Due.is("meet(654321)", x.meet(654321), 200);
     Due.is("took", x.took(2, 0), 20);
     Due.is("took", x.took(1, 0), 0);
+    Due.promise(11, "200 SAYINGS, though they take more MINUTES");
+    SpeaksInTurn z = table("1", 0);
+    for (int t = 0; t < 4; t++) {
+      z.thing(1, 0);
+      for (int c = 0; c < 5; c++) {
+        z.card(t, 1, 1);
+      }
+    }
+    Due.is("meet(0)", z.meet(0), 220);
+    Due.is("sayings", z.told(1), 200);
+    Due.is("55 of the first", z.saying(55, 1), 1);
+    Due.is("35 of the fourth", z.took(3, 0), 40);
+    Due.is("none of the fifth", z.took(4, 0), 0);
     Due.promise(11, "200 SAYINGS: not one less where one is asked for them");
     SpeaksInTurn y = table("s<e*7", 0);
     y.mend(0, 4, 8);
@@ -467,6 +480,13 @@ final class MeetingEdges {
     Due.promise(15, "STOPS: how often one stopped another one");
     Due.is("did(2, 1)", z.did(2, 1), 2);
     Due.is("did(0, 1)", z.did(0, 1), 0);
+    Due.law(z, "p>1?9;s<2");
+    z.meet(0);
+    Due.promise(13, "twice in a row by one: neither of two");
+    int[] by = {2, 2, Due.NOT, Due.NOT, Due.NOT, Due.NOT};
+    for (int i = 0; i < by.length; i++) {
+      Due.is("saying(" + i + ", 6)", z.saying(i, 6), by[i]);
+    }
     Due.promise(13, "nobody is STOPPED twice in a row by one: a new MEETING begins anew");
     z.meet(0);
     Due.is("0", z.saying(0, 6), 2);
@@ -850,6 +870,14 @@ final class MeetingEdges {
     x.mend(0, 3, -8);
     x.meet(0);
     Due.is("all but that one", x.told(9), 1023 - 16);
+    Due.promise(12, "NEEDED: not who SAID what another one knows, too");
+    SpeaksInTurn z = table("n", 0, 0);
+    z.card(0, -1, 3);
+    z.meet(0);
+    Due.is("who SAID it", z.first(0, 0), 0);
+    Due.is("nobody", z.told(9), 0);
+    Due.promise(12, "NEEDED: by the order, the RULE and the TIMER of THE MEETING");
+    neededAsHeld();
     Due.promise(12, "NEEDED: the only PERSON");
     SpeaksInTurn y = table("n", 0);
     y.card(0, -1, 1);
@@ -858,6 +886,45 @@ final class MeetingEdges {
     y.mend(0, 3, 2);
     y.meet(0);
     Due.is("one who does not", y.told(9), 0);
+  }
+
+  private static void neededAsHeld() {
+    SpeaksInTurn x = new SpeaksInTurn();
+    x.person(0, 0);
+    x.person(0, 2);
+    x.person(0, 0);
+    x.thing(1, 0);
+    x.thing(1, 2);
+    x.card(0, -1, 2);
+    Due.law(x, "p=1?n;p?0;s<e");
+    x.meet(12);
+    Due.is("1 is not there for the first THING", x.told(9), 0);
+    x.meet(21);
+    Due.is("1 is there for it behind the second, as long as 0 speaks on that", x.told(9), 3);
+    x.set(2, 1);
+    x.meet(21);
+    Due.is("by a TIMER of 1 it is not said", x.told(9), 0);
+    x.mend(1, 2, 0);
+    x.set(0, 5);
+    x.meet(12);
+    Due.is("by a TIMER of 1 it is on paper", x.told(9), 2);
+    SpeaksInTurn y = table("2-s-2*p", 0, 0);
+    y.card(0, -1, 2);
+    y.meet(0);
+    Due.is("who WISHES nothing", y.told(9), 0);
+    y.set(0, 5);
+    y.meet(0);
+    Due.is("by rule 5", y.told(9), 2);
+    SpeaksInTurn z = table("p?9-s-t;0", 0, 0);
+    for (int c = 0; c < 8; c++) {
+      z.card(0, c < 7 ? 0 : -1, 2);
+    }
+    z.set(2, 3);
+    z.meet(0);
+    Due.is("by a TIMER of 3 not all is said", z.told(9), 0);
+    z.set(2, 9);
+    z.meet(0);
+    Due.is("by a TIMER of 9 all is", z.told(9), 2);
   }
 
   // ---- promise 13
@@ -1000,6 +1067,11 @@ final class MeetingEdges {
     SpeaksInTurn x = table("s<p", 0, 0, 0);
     x.meet(0);
     Due.row("did(v, 0)", v -> x.did(v, 0), 0, 333, 666);
+    x.mend(2, 2, 1);
+    x.meet(0);
+    Due.promise(15, "SHARE: of all MINUTES, not of those there");
+    Due.row("did(v, 0)", v -> x.did(v, 0), 0, 333, 666);
+    Due.row("did(v, 3)", v -> x.did(v, 3), 3, 3, 2);
     Due.promise(15, "SHARE: all of them");
     SpeaksInTurn z = table("s<7", 0);
     z.meet(0);

@@ -20,6 +20,7 @@ final class ThoughtEdges {
     thingsAsTheyCame();
     leavesAllAsItWas();
     behindChanges();
+    ruleAndTimerInForce();
     filmRefused();
     filmAsLongAsTheRow();
     filmOfOthers();
@@ -282,6 +283,39 @@ final class ThoughtEdges {
       Due.promise(19, "a thought behind changes, however many");
       Due.is("times(2) behind " + changes, x.times(2), least);
     }
+  }
+
+  private static void ruleAndTimerInForce() {
+    SpeaksInTurn x = table("2-s", 1, 1);
+    for (int c = 0; c < 9; c++) {
+      x.card(0, 0, 1);
+    }
+    int[] free = {2, 4, 6, 8, 10, 11, 11, 11, 11};
+    for (int timer = 1; timer <= 9; timer++) {
+      x.set(0, 0);
+      x.set(2, timer);
+      Due.promise(17, "by the TIMER that is set");
+      Due.is("rule(0) by timer " + timer, x.rule(0), timer == 1 ? 0 : 5);
+      Due.is("rule(2) by timer " + timer, x.rule(2), 2);
+      Due.promise(18, "by the RULE IN FORCE and the TIMER that is set");
+      Due.is("order(2) by timer " + timer, x.order(2), free[timer - 1]);
+      x.set(0, 5);
+      Due.is("order(2) by rule 5 and timer " + timer, x.order(2), 2);
+    }
+    SpeaksInTurn y = table("1-s", 1, 1);
+    y.card(0, -1, 1);
+    Due.promise(19, "by the RULE IN FORCE");
+    Due.row("times by rule 0", y::times, 2, 0, 2);
+    y.set(0, 5);
+    Due.row("times by rule 5", y::times, 1, 0, 1);
+    SpeaksInTurn z = table("n|t=0", 0, 1);
+    z.card(0, 0, 1);
+    z.card(0, 0, 1);
+    Due.promise(20, "by the TIMER that is set");
+    z.row(0, 0, 2);
+    Due.is("film(0) by timer 3", z.film(0), 0);
+    z.set(2, 2);
+    Due.is("film(0) by timer 2", z.film(0), 1 + 2 + 4 + 8 + 16);
   }
 
   // ---- promise 20
